@@ -75,7 +75,11 @@ public final class CutMatch {
 
     public int events() {
         int before = logSize;
-        latestFault = readEvents();
+        latestFault = 0;
+        tape.rewind();
+        for (int step = 0; step < MOST_BYTES && latestFault == 0 && tape.seek(); step++) {
+            latestFault = readEvent();
+        }
         tape.length = 0;
         if (latestFault != 0) {
             logSize = before;
@@ -450,26 +454,16 @@ public final class CutMatch {
             if (!tape.readNumber()) {
                 return faultHere(CANT_STAND);
             }
-            if (k == 0) {
-                w = tape.number;
-            }
             if (!Rules.canStandInRow(k, tape.number)) {
                 return faultHere(CANT_BE);
             }
-            rules.propose(w, k, tape.number);
-        }
-        return tape.readByte(';') ? 0 : faultHere(CANT_STAND);
-    }
-
-    private int readEvents() {
-        tape.rewind();
-        for (int step = 0; step < MOST_BYTES && tape.seek(); step++) {
-            int fault = readEvent();
-            if (fault != 0) {
-                return fault;
+            if (k == 0) {
+                w = tape.number;
+            } else {
+                rules.propose(w, k, tape.number);
             }
         }
-        return 0;
+        return tape.readByte(';') ? 0 : faultHere(CANT_STAND);
     }
 
     private int readEvent() {
@@ -589,17 +583,15 @@ public final class CutMatch {
             if (balls <= 0 || balls > MOST_BALLS || wickets < 0 || wickets >= ROWS) {
                 return 0;
             }
-            int k = balls / BALLS_OF_COLUMN;
+            int at = COLUMNS * wickets + balls / BALLS_OF_COLUMN;
             int more = balls % BALLS_OF_COLUMN;
-            int below = number(wickets, k);
-            if (more == 0) {
-                return BALLS_OF_COLUMN * below;
-            }
-            return BALLS_OF_COLUMN * below + more * (number(wickets, k + 1) - below);
+            // Of 120 balls there is no column beyond, and no ball more either.
+            int step = more == 0 ? 0 : cells[at + 1] - cells[at];
+            return BALLS_OF_COLUMN * cells[at] + more * step;
         }
 
         int full() {
-            return worthOf(MOST_BALLS, 0);
+            return BALLS_OF_COLUMN * cells[COLUMNS - 1];
         }
 
         int worthOfOvers(int overs) {
@@ -1012,7 +1004,7 @@ public final class CutMatch {
         }
 
         private boolean targetReached() {
-            return inPlay == 1 && hasTarget() && second.runs >= theTarget();
+            return inPlay == 1 && hasTarget() && second.runs >= targetBy(first.runs, second.part);
         }
 
         int ballsLeft(int i) {
@@ -1022,7 +1014,8 @@ public final class CutMatch {
 
         /** WORTH of what is left of the innings in play. */
         private int worthLeft() {
-            return rules.worthOf(ballsLeft(inPlay), side(inPlay).wickets);
+            Innings side = side(inPlay);
+            return rules.worthOf(BALLS_OF_OVER * side.overs - side.balls, side.wickets);
         }
 
         private int lossByCut(int n) {

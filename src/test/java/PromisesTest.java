@@ -176,6 +176,9 @@ public final class PromisesTest {
         tableFault("rows 0 1 2 3 4;", 1, 0);
         tableFault("  ro 0 1 2 3 4;", 1, 2);
         tableFault("Row 0 1 2 3 4;", 1, 0);
+        tableFault("rowa 0 1 2 3 4;", 1, 0);
+        tableFault("rowz 0 1 2 3 4;", 1, 0);
+        tableFault("roq 0 1 2 3 4;", 1, 0);
         tableFault("0 1 2 3 4;", 1, 0);
         tableFault("row", 1, 3);
         tableFault("row \n", 1, 5);
@@ -299,6 +302,9 @@ public final class PromisesTest {
         CutMatch m = withOvers(3);
         due("back of none", m.back(), CutMatch.NONE);
         due("ball", m.play('6', -9), 1);
+        due("back of one", m.back(), 0);
+        due("nothing is made", m.made(0, 6), 0);
+        due("ball", m.play('6', -9), 1);
         due("not 7", m.play('7', 0), CutMatch.NONE);
         due("no byte", m.play(6, 0), CutMatch.NONE);
         due("no byte", m.play('6' + 256, 0), CutMatch.NONE);
@@ -334,6 +340,13 @@ public final class PromisesTest {
         due("first in play", m.count(1), 0);
         due("runs", innings(m, 0, 0), 8);
         due("clear", m.clear(), 6);
+        for (int r = 0; r <= 6; r++) {
+            due("none made", m.made(0, r), 0);
+        }
+        for (int what = 0; what < 3; what++) {
+            due("no OVER", m.over(0, 0, what), 0);
+        }
+        due("no wicket", m.fall(0, 0, 0), CutMatch.NONE);
         due("clear", m.clear(), 0);
         due("EVENTS", m.count(0), 0);
         due("runs", innings(m, 0, 0), 0);
@@ -522,7 +535,9 @@ public final class PromisesTest {
         due("none yet", now.blockNow(), 0);
         due("came", events(now, "12x3w4"), 6);
         due("five balls", now.blockNow(), 0);
-        due("came", events(now, "5 n 6 1 x 0 0 2 0 0 0 0 0"), 13);
+        due("came", events(now, "5"), 1);
+        due("six balls", now.blockNow(), 1);
+        due("came", events(now, "n 6 1 x 0 0 2 0 0 0 0 0"), 12);
         due("seventeen balls", now.blockNow(), 1);
         due("came", events(now, "1"), 1);
         due("eighteen balls", now.blockNow(), 2);
@@ -575,6 +590,9 @@ public final class PromisesTest {
         due("came", events(m, "6"), 1);
         due("last", m.lastStand(0), 6);
         due("best is the last", m.bestStand(0), 6);
+        due("came", events(m, "x1"), 2);
+        due("last of four", m.lastStand(0), 1);
+        due("best of five", m.bestStand(0), 6);
         due("not begun", m.lastStand(1), 0);
         due("not begun", m.bestStand(1), 0);
         due("no wicket", played(3, "24").lastStand(0), 6);
@@ -672,6 +690,20 @@ public final class PromisesTest {
         due("came", events(more, "00"), 2);
         // Q 500: 4 and 150 times 250 by 30000 (1)
         due("par above P", more.par(), 5);
+        CutMatch flat = new CutMatch();
+        StringBuilder ones = new StringBuilder();
+        for (int w = 0; w < 10; w++) {
+            ones.append("row ").append(w).append(" 1 1 1 1;");
+        }
+        due("rows", table(flat, ones.toString()), 10);
+        due("FULL", flat.count(3), 30);
+        due("came", events(flat, "4".repeat(90)), 90);
+        due("nothing used of 30 and more", flat.projected(), CutMatch.NONE);
+        due("came", events(flat, "0"), 1);
+        due("1 of 30 used", flat.projected(), 10800);
+        due("came", events(flat, "/"), 1);
+        // P 1, Q 30: 360, 150 times 29 by 30 and 1
+        due("P is 1", flat.target(), 360 + 145 + 1);
         CutMatch mean = new CutMatch();
         due("set", mean.set(1, 400), true);
         due("came", events(mean, "4c10/"), 3);
@@ -758,6 +790,8 @@ public final class PromisesTest {
         brokenIs("444000000000 000000622200", 0, 1, 1, 0);
         brokenIs("000000622200 444000000000", 0, 2, 2, 0);
         brokenIs("400000600000 622000000000", 0, 2, 1, 2);
+        brokenIs("460000000000 442000000000", 0, 0, 0, 0);
+        brokenIs("660000000000 444000000000", 0, 0, 2, 0);
         brokenIs("122122000000 000111222 w00 0", 0, 1, 0, 1);
         CutMatch won = played(2, "222222000000 666");
         due("not a tie", won.result(), 2);
@@ -825,6 +859,9 @@ public final class PromisesTest {
         CutMatch less = played(6, "6".repeat(10) + "0".repeat(26) + "d3");
         due("of fewer overs", less.ifRuns(100), 51);
         due("to its balls", played(2, "6".repeat(12) + "000000").ifCut(1), 37);
+        due("to one over", played(2, "6".repeat(12) + "0").leastCut(0), 1);
+        due("to nineteen overs", played(20, "6".repeat(120)).leastCut(684), 19);
+        due("more than that", played(20, "6".repeat(120)).leastCut(686), CutMatch.NONE);
     }
 
     private static void aFullLog() {
