@@ -1,4 +1,3 @@
-import java.nio.charset.StandardCharsets;
 import java.util.ArrayList;
 import java.util.Arrays;
 import java.util.List;
@@ -315,12 +314,8 @@ public final class ModelTest {
     // ---- texts
 
     private void feedText(String text) {
-        String padded = text + "~".repeat((20 - text.length() % 20) % 20);
-        byte[] bytes = padded.getBytes(StandardCharsets.ISO_8859_1);
-        int[] words = new int[bytes.length / 4];
-        for (int k = 0; k < bytes.length; k++) {
-            words[k / 4] |= (bytes[k] & 255) << 8 * (3 - k % 4);
-        }
+        int[] words = Run.words(text);
+        String padded = text + "~".repeat(4 * words.length - text.length());
         boolean all = true;
         for (int k = 0; k < words.length; k += 5) {
             boolean room = tape.length() + 20 <= 500;

@@ -36,19 +36,11 @@ public final class PromisesTest {
         }
     }
 
-    private static int word(String text, int at) {
-        int word = 0;
-        for (int k = at; k < at + 4; k++) {
-            word = word << 8 | (k < text.length() ? text.charAt(k) & 255 : 'z');
-        }
-        return word;
-    }
-
     /** The text comes behind an empty TAPE. */
     private static void tell(CutMatch m, String text) {
-        for (int at = 0; at < text.length(); at += 20) {
-            due("feed", m.feed(word(text, at), word(text, at + 4), word(text, at + 8),
-                word(text, at + 12), word(text, at + 16)), at + 20);
+        int[] words = Run.words(text);
+        for (int k = 0; k < words.length; k += 5) {
+            due("feed", m.feed(words[k], words[k + 1], words[k + 2], words[k + 3], words[k + 4]), 4 * k + 20);
         }
         due("end", m.end(text.length()), true);
     }
@@ -691,11 +683,7 @@ public final class PromisesTest {
         // Q 500: 4 and 150 times 250 by 30000 (1)
         due("par above P", more.par(), 5);
         CutMatch flat = new CutMatch();
-        StringBuilder ones = new StringBuilder();
-        for (int w = 0; w < 10; w++) {
-            ones.append("row ").append(w).append(" 1 1 1 1;");
-        }
-        due("rows", table(flat, ones.toString()), 10);
+        due("rows", table(flat, Run.allRows(1)), 10);
         due("FULL", flat.count(3), 30);
         due("came", events(flat, "4".repeat(90)), 90);
         due("nothing used of 30 and more", flat.projected(), CutMatch.NONE);
