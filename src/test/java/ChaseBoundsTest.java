@@ -1,8 +1,8 @@
 /** The bounds of promises 27 to 32: the chase. */
 public final class ChaseBoundsTest {
     private static final int NONE = Run.NONE;
-    private static final String[] NO_CHASE = {"target", "par", "result", "margin", "needs 0", "needs 1", "needs 2", "needs 3",
-        "broken 0", "broken 1", "broken 2", "broken 3"};
+    private static final String[] NO_CHASE = {"target", "par", "result", "margin", "needs 0", "needs 1", "needs 2",
+        "needs 3", "broken 0", "broken 1", "broken 2", "broken 3"};
 
     private static String dots(int many) {
         return "0".repeat(many);
@@ -35,7 +35,8 @@ public final class ChaseBoundsTest {
     private static void targetStays() {
         // S 12, P 3000.
         String first = "66" + dots(10);
-        Run m = Run.of(2, first).due(13, "target").came("d1").due(7, "target").came("00").due(7, "target").due(2, "par");
+        Run m = Run.of(2, first).due(13, "target").came("d1").due(7, "target").came("00").due(7, "target")
+            .due(2, "par");
         m.came("/").due(7, "target").due(NONE, "par").due(500, "innings 1 4");
         Run.of(2, first + "c1").due(7, "target").due(1, "count 1");
         Run.of(2, first + dots(6) + "c1").due(7, "target").due(2, "count 1").due(NONE, "par");
@@ -76,7 +77,8 @@ public final class ChaseBoundsTest {
         Run.of(1, "666666" + "x6666w" + "ww" + "w").due(1, "count 1").due(NONE, "margin");
         // CLOSED: ahead of PAR by one, by many; THE TARGET less 1 is the most it can have
         String first = "6" + dots(11);
-        Run closed = new Run().due(1, "set 0 2", "set 2 1").came(first + dots(6) + "4/").due(2, "result").due(1, "margin");
+        Run closed = new Run().due(1, "set 0 2", "set 2 1").came(first + dots(6) + "4/").due(2, "result")
+            .due(1, "margin");
         closed.due(19, "back").due(NONE, "margin").came("ww/").due(2, "result").due(3, "margin");
         closed.due(21, "back").came("w").due(2, "result").due(10, "margin").due(2, "count 1");
         new Run().due(1, "set 0 2", "set 2 1").came(first + dots(6) + "3/").due(3, "result").due(0, "margin");
@@ -99,7 +101,8 @@ public final class ChaseBoundsTest {
         m.came(dots(6)).row("needs", 1, 1, 6, 1).due(NONE, "needs 4", "needs -1").came("0");
         m.due(NONE, "needs 0", "needs 1", "needs 2", "needs 3").due(3, "result");
         // the last run of all: none is in play then
-        Run.of(2, "1" + dots(11) + "1").row("needs", 1, 11, 6, 11).came("w").due(NONE, "needs 0", "needs 1", "needs 2", "needs 3");
+        Run.of(2, "1" + dots(11) + "1").row("needs", 1, 11, 6, 11).came("w")
+            .due(NONE, "needs 0", "needs 1", "needs 2", "needs 3");
         // a CUT leaves fewer of both
         Run.of(2, "66" + dots(10) + "c1").row("needs", 7, 6, 7, 1);
         // S 0: one run of all balls, 6 by 120

@@ -5,6 +5,8 @@ import java.lang.reflect.Method;
 import java.lang.reflect.Modifier;
 import java.nio.file.Files;
 import java.nio.file.Path;
+import java.util.ArrayList;
+import java.util.List;
 import java.util.NoSuchElementException;
 import java.util.Set;
 import java.util.TreeSet;
@@ -90,8 +92,49 @@ public final class FaceTest {
         check(CutMatch.class.getPackageName().isEmpty(), "no package");
     }
 
+    /** Names of parameters, too: each line of the document's face stands in the source. */
+    private static void checkFaceLines(String source) throws IOException {
+        Path path = Path.of("../shared/DOC.md");
+        if (!Files.exists(path)) {
+            System.out.println("the document is not there: its face's lines are not looked at");
+            return;
+        }
+        int lines = 0;
+        for (String line : Files.readAllLines(path)) {
+            boolean member = line.startsWith("    public ");
+            lines += member ? 1 : 0;
+            String head = line.contains("=") ? line.strip() : line.strip().replace(";", " {");
+            check(!member || source.contains("\n    " + head), "the document's " + line.strip());
+        }
+        check(lines == FACE.length + 2, "the document's face has " + lines + " lines");
+    }
+
+    /** Rule 11, and the room: what is made is made by constructors, but for what is thrown. */
+    private static void checkSizes(String source) {
+        Class<?>[] inside = CutMatch.class.getDeclaredClasses();
+        check(inside.length < 12, "classes: " + inside.length);
+        List<Class<?>> all = new ArrayList<>(List.of(inside));
+        all.add(CutMatch.class);
+        for (Class<?> one : all) {
+            int fields = 0;
+            for (Field field : one.getDeclaredFields()) {
+                fields += Modifier.isStatic(field.getModifiers()) ? 0 : 1;
+            }
+            check(fields <= 20, "fields of " + one + ": " + fields);
+            for (Method method : one.getDeclaredMethods()) {
+                check(method.getParameterCount() <= 7, "parameters of " + method);
+            }
+        }
+        for (String line : source.split("\n")) {
+            boolean makes = line.contains(" new ");
+            check(!makes || line.contains("throw new ") || line.matches(" +\\w+ = new .*"), "made here: " + line);
+        }
+    }
+
     private static void checkSource() throws IOException {
         String source = Files.readString(Path.of("src/main/java/CutMatch.java"));
+        checkFaceLines(source);
+        checkSizes(source);
         for (String word : NOT_LEFT_BY_THE_LANGUAGE) {
             check(!source.contains(word), "without " + word);
         }

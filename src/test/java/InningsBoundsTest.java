@@ -31,7 +31,8 @@ public final class InningsBoundsTest {
         m.due(THROWS, "innings 0 MIN", "innings 0 MAX", "innings 1 MIN", "innings 1 MAX", "innings 1 -1");
         // what 0 to 8, of the innings in play, of one not begun yet, of those that have ended
         Run.of(2, "").row("innings 0", 0, 0, 0, 2, 3000, 0, 0, 0, 12).row("innings 1", 0, 0, 0, 2, 3000, 0, 0, 0, 12);
-        Run.of(2, "6xwn").row("innings 0", 8, 1, 2, 2, 3000, 0, 0, 2, 10).row("innings 1", 0, 0, 0, 2, 3000, 0, 0, 0, 12);
+        Run.of(2, "6xwn").row("innings 0", 8, 1, 2, 2, 3000, 0, 0, 2, 10)
+            .row("innings 1", 0, 0, 0, 2, 3000, 0, 0, 0, 12);
         Run.of(2, "6xwnd1").row("innings 1", 0, 0, 0, 1, 1500, 0, 0, 0, 6);
         Run.of(2, "6xwn/").row("innings 0", 8, 1, 2, 2, 3000 - 2250, 0, 1, 2, 0);
         Run.of(2, "6xwnc1").row("innings 0", 8, 1, 2, 1, 3000 - 6 * 225, 1, 0, 2, 4);
@@ -48,7 +49,8 @@ public final class InningsBoundsTest {
     // ---- Promise 15
 
     private static void cut() {
-        leaveAll(THROWS, "cut 0 -1 0", "cut 0 2 0", "cut 1 1 0", "cut 0 0 -1", "cut 0 0 5", "cut 1 0 5", "cut 2 0 0", "cut -1 0 0");
+        leaveAll(THROWS, "cut 0 -1 0", "cut 0 2 0", "cut 1 1 0", "cut 0 0 -1", "cut 0 0 5", "cut 1 0 5", "cut 2 0 0",
+            "cut -1 0 0");
         Run none = new Run().due(THROWS, "cut 0 0 0", "cut 1 0 0").came("c19").due(THROWS, "cut 0 1 0", "cut 1 0 0");
         none.row("cut 0 0", 0, 0, 20, 19, 1500).due(0, "back").due(THROWS, "cut 0 0 0");
         for (String v : new String[] {"MIN", "MAX"}) {
@@ -95,7 +97,8 @@ public final class InningsBoundsTest {
 
     private static void block() {
         leaveAll(NONE, "block 0 -1", "block 0 3", "block 1 3", "block 2 0", "block -1 0", "block 2 3");
-        leaveAll(NONE, "inBlock 0 -1 0", "inBlock 0 3 0", "inBlock 0 0 -1", "inBlock 0 0 3", "inBlock 2 0 0", "inBlock -1 0 0");
+        leaveAll(NONE, "inBlock 0 -1 0", "inBlock 0 3 0", "inBlock 0 0 -1", "inBlock 0 0 3", "inBlock 2 0 0",
+            "inBlock -1 0 0");
         Run m = new Run().row("block 0", 6, 9, 5).row("block 1", 6, 9, 5);
         for (String v : new String[] {"MIN", "MAX"}) {
             m.due(NONE, "block " + v + " 0", "block 0 " + v);
@@ -141,9 +144,11 @@ public final class InningsBoundsTest {
     // ---- Promises 20, 21, 22
 
     private static void fall() {
-        leaveAll(NONE, "fall 0 -1 0", "fall 0 2 0", "fall 1 1 0", "fall 0 0 -1", "fall 0 0 3", "fall 2 0 0", "fall -1 0 0");
+        leaveAll(NONE, "fall 0 -1 0", "fall 0 2 0", "fall 1 1 0", "fall 0 0 -1", "fall 0 0 3", "fall 2 0 0",
+            "fall -1 0 0");
         Run m = Run.of(2, "").due(NONE, "fall 0 0 0", "fall 1 0 0").came("4wx");
-        m.row("fall 0 0", 5, 2, 5).due(NONE, "fall 0 1 0", "fall 0 0 3", "fall 1 0 0").due(2, "back").due(NONE, "fall 0 0 0");
+        m.row("fall 0 0", 5, 2, 5).due(NONE, "fall 0 1 0", "fall 0 0 3", "fall 1 0 0").due(2, "back")
+            .due(NONE, "fall 0 0 0");
         for (String v : new String[] {"MIN", "MAX"}) {
             m.came("x").due(NONE, "fall " + v + " 0 0", "fall 0 " + v + " 0", "fall 0 0 " + v).due(2, "back");
         }
@@ -167,13 +172,15 @@ public final class InningsBoundsTest {
         m.due(2, "lastStand 0").due(3, "bestStand 0").came("2").due(4, "lastStand 0", "bestStand 0");
         m.came("x").due(NONE, "lastStand 0").due(4, "bestStand 0", "fall 0 9 2").due(0, "lastStand 1", "bestStand 1");
         Run.of(2, "xxxxxxxxxx").due(NONE, "lastStand 0").due(0, "bestStand 0");
-        Run.of(3, "1" + dots(17) + "xxxxxxxxx").due(0, "lastStand 1").came("x").due(NONE, "lastStand 1").due(1, "lastStand 0");
+        Run.of(3, "1" + dots(17) + "xxxxxxxxx").due(0, "lastStand 1").came("x").due(NONE, "lastStand 1")
+            .due(1, "lastStand 0");
     }
 
     // ---- Promises 23, 24, 25
 
     private static void made() {
-        leaveAll(NONE, "made 0 -1", "made 0 7", "made 1 7", "made 2 0", "made -1 0", "made 0 MIN", "made 0 MAX", "made MIN 0",
+        leaveAll(NONE, "made 0 -1", "made 0 7", "made 1 7", "made 2 0", "made -1 0", "made 0 MIN", "made 0 MAX",
+            "made MIN 0",
             "made MAX 0");
         new Run().row("made 0", 0, 0, 0, 0, 0, 0, 0).row("made 1", 0, 0, 0, 0, 0, 0, 0);
         Run m = new Run().came("0123456").row("made 0", 1, 1, 1, 1, 1, 1, 1).came("xwn660");
@@ -203,7 +210,8 @@ public final class InningsBoundsTest {
         }
         Run m = new Run().due(NONE, "rate 0 false", "rate 0 true", "rate 1 false", "rate 1 true").came("w");
         m.due(NONE, "rate 0 false", "rate 0 true").came("0").due(6, "rate 0 false").due(1, "rate 0 true");
-        new Run().came("0").due(0, "rate 0 false").due(1, "rate 0 true").came("0").due(0, "rate 0 false").due(1, "rate 0 true");
+        new Run().came("0").due(0, "rate 0 false").due(1, "rate 0 true").came("0").due(0, "rate 0 false")
+            .due(1, "rate 0 true");
         // six times the runs by the balls: 6 by 7 has no less terms, 6 by 8, 9, 12 have
         new Run().came("1" + dots(6)).due(6, "rate 0 false").due(7, "rate 0 true").came("0").due(3, "rate 0 false")
             .due(4, "rate 0 true").came("0").due(2, "rate 0 false").due(3, "rate 0 true").came("000")

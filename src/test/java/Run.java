@@ -13,7 +13,7 @@ import java.util.NoSuchElementException;
  * is its number, MIN and MAX are the ends of int); its answer is a number, a boolean's 1 or 0.
  */
 final class Run {
-    static final int NONE = CutMatch.NONE;
+    static final int NONE = -1;
     /** The answer of a call that throws NoSuchElementException. */
     static final int THROWS = Integer.MIN_VALUE;
 
@@ -203,8 +203,10 @@ final class Run {
         add(all, "block " + i, 0, 2);
         for (int k = 0; k < 3; k++) {
             add(all, "inBlock " + i + " " + k, 0, 2);
-            add(all, "over " + i + " " + k, 0, 2);
             add(all, "fall " + i + " " + k, 0, 2);
+        }
+        for (int k = 0; k < 20; k++) {
+            add(all, "over " + i + " " + k, 0, 2);
         }
         add(all, "cut " + i + " 0", 0, 4);
         add(all, "cut " + i + " 1", 0, 4);

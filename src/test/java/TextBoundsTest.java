@@ -257,7 +257,8 @@ public final class TextBoundsTest {
 
     /** "3 an EVENT that can't come (no innings in play; d too late), more than 400". */
     private static void cantCome() {
-        for (String event : new String[] {"0", "1", "2", "3", "4", "5", "6", "x", "w", "n", "c1", "c", "d1", "d", "/"}) {
+        for (String event : new String[] {"0", "1", "2", "3", "4", "5", "6", "x", "w", "n", "c1", "c", "d1", "d",
+            "/"}) {
             Run.refuses(run -> run.came("1//"), "events", event, 3, 0);
             Run.refuses(run -> run.came("1/"), "events", "/ " + event, 3, 2);
             Run.refuses(run -> run.came("w".repeat(400)), "events", event, 3, 0);

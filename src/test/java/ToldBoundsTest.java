@@ -57,7 +57,8 @@ public final class ToldBoundsTest {
         new Run().due(0, "set 4 15").due(1, "set 4 14").due(0, "set 3 7").due(1, "set 3 5", "set 4 15");
         new Run().due(1, "set 3 0").due(0, "set 4 21").due(1, "set 4 20").due(0, "set 3 1", "set 3 -1", "set 4 20");
         new Run().due(1, "set 4 0").due(0, "set 3 21").due(1, "set 3 20").due(0, "set 4 1", "set 4 -1", "set 3 20");
-        new Run().due(0, "set 3 MAX", "set 4 MAX", "set 3 2147483639", "set 4 MIN").due(6, "count 13").due(9, "count 14");
+        new Run().due(0, "set 3 MAX", "set 4 MAX", "set 3 2147483639", "set 4 MIN").due(6, "count 13")
+            .due(9, "count 14");
     }
 
     /** A SETTING that is changed empties the LOG alone; the innings have the new OVERS. */
@@ -65,8 +66,9 @@ public final class ToldBoundsTest {
         Run.alike(run -> {
             allTold(run);
             run.due(6, "clear");
-        }, run -> run.table(1, "row 9 1 2 3 4;").due(1, "set 0 3", "set 1 90").came("4x1w").tell("123").due(1, "set 2 1"));
-        new Run().events(NONE, "7").came("").events(NONE, " 7").due(1, "set 0 4").due(1 + 8, "fault");
+        }, run -> run.table(1, "row 9 1 2 3 4;").due(1, "set 0 3", "set 1 90").came("4x1w").tell("123")
+            .due(1, "set 2 1"));
+        new Run().events(NONE, " 7").due(1, "set 0 4").due(1 + 8, "fault");
         Run m = Run.of(20, "d9/1").due(1, "set 0 1").due(1, "innings 0 3", "innings 1 3").due(1500, "innings 1 4");
         m.due(1, "set 0 20").due(20, "innings 0 3", "innings 1 3").due(30000, "innings 0 4").due(0, "count 1");
     }
@@ -142,11 +144,16 @@ public final class ToldBoundsTest {
 
     private static void clear() {
         new Run().due(0, "clear", "count 0");
-        new Run().came("w".repeat(400)).due(400, "clear").due(0, "clear", "count 0", "innings 0 0").due(1, "play 'w' 0");
+        new Run().came("w".repeat(400)).due(400, "clear").due(0, "clear", "count 0", "innings 0 0")
+            .due(1, "play 'w' 0");
         Run.leaves(run -> run.tell("12"), 0, "clear");
         Run.alike(run -> run.due(1, "set 0 3").tell("12"), run -> run.due(1, "set 0 3").came("1x1wc2d2/0/")
             .tell("12").due(9, "clear"));
-        new Run().events(NONE, " 7").came("").events(NONE, "  7").due(0, "clear").due(1 + 16, "fault");
+        new Run().events(NONE, " 7").due(0, "clear").due(1 + 8, "fault");
+        // Nothing is left in any OVER, behind the first ball of another match either.
+        String nineWickets = ("4w".repeat(10) + "x").repeat(9) + "/";
+        Run.alike(run -> { }, run -> run.came(nineWickets + "1x6" + dots(100)).due(1, "count 1").due(293, "clear"));
+        Run.alike(run -> run.came("6"), run -> run.came("1wn".repeat(119) + "6").due(358, "clear").came("6"));
     }
 
     // ---- Promise 11

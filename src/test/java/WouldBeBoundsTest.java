@@ -30,7 +30,8 @@ public final class WouldBeBoundsTest {
         Run.of(3, EIGHTEEN + "c2").row("ifCut", NONE, 7, NONE, NONE);
         Run.of(3, EIGHTEEN + "c1").row("ifCut", NONE, NONE, NONE, NONE);
         // A wicket: six balls of nine wickets are worth 1350.
-        Run.of(3, EIGHTEEN + "x").row("ifCut", NONE, 18 * (4500 - 2700) / 4500 + 1, 18 * (4500 - 1350) / 4500 + 1, NONE);
+        Run.of(3, EIGHTEEN + "x").row("ifCut", NONE, 18 * (4500 - 2700) / 4500 + 1, 18 * (4500 - 1350) / 4500 + 1,
+            NONE);
         // Its runs are THE TARGET or more by that: it is told all the same.
         Run.of(3, EIGHTEEN + "6w").row("ifCut", NONE, 7, 13, NONE).due(12, "needs 0");
         Run.of(20, "1" + dots(119)).due(NONE, "ifCut 20", "ifCut 21").due(1, "ifCut 19", "ifCut 1");
@@ -45,10 +46,12 @@ public final class WouldBeBoundsTest {
         Run.leaves(steps(3, "66"), NONE, "ifCut 2");
         Run.leaves(steps(3, EIGHTEEN + "/"), NONE, "ifCut 2");
         Run.leaves(steps(3, "/1"), NONE, "ifCut 2");
-        Run.of(3, EIGHTEEN.substring(1)).due(NONE, "ifCut 1", "leastCut 0").came("0").due(5, "ifCut 1").due(1, "leastCut 0");
+        Run.of(3, EIGHTEEN.substring(1)).due(NONE, "ifCut 1", "leastCut 0").came("0").due(5, "ifCut 1")
+            .due(1, "leastCut 0");
         Run full = Run.of(3, EIGHTEEN).came("w".repeat(18) + "/").due(NONE, "ifCut 1");
         full.due(37, "clear").came("w".repeat(377) + dots(18)).came("0000").due(399, "count 0").due(1, "count 1");
-        full.due(377 / 3 + 1, "ifCut 1").due(1, "leastCut 0").came("0").due(NONE, "ifCut 1", "ifCut 2", "leastCut 0", "leastCut MIN");
+        full.due(377 / 3 + 1, "ifCut 1").due(1, "leastCut 0").came("0")
+            .due(NONE, "ifCut 1", "ifCut 2", "leastCut 0", "leastCut MIN");
         full.due(NONE, "play 'c' 1").due(399, "back").due(126, "ifCut 1").due(400, "play 'c' 1").due(126, "target");
     }
 
@@ -88,7 +91,8 @@ public final class WouldBeBoundsTest {
         // P is 0: none, with enough balls, too.
         new Run().due(1, "set 0 3", "set 2 1").came("/" + dots(6)).due(0, "ifClosed");
         // THE TARGET less 1 is ahead of PAR with one ball left.
-        new Run().due(1, "set 0 3", "set 2 1").came(EIGHTEEN + "666" + dots(14)).due(2, "ifClosed").came("0").due(3, "result");
+        new Run().due(1, "set 0 3", "set 2 1").came(EIGHTEEN + "666" + dots(14)).due(2, "ifClosed").came("0")
+            .due(3, "result");
         Run full = new Run().due(1, "set 2 1").came("w".repeat(270) + dots(120)).came("666666" + "ww").came("ww");
         full.due(400, "count 0").due(2, "ifClosed").due(NONE, "play '/' 0");
     }
@@ -100,7 +104,8 @@ public final class WouldBeBoundsTest {
             Run.leaves(steps(3, EIGHTEEN + "1"), NONE, "ifRuns " + runs);
         }
         Run.leaves(steps(3, EIGHTEEN + "1"), 19, "ifRuns 18");
-        Run.of(3, EIGHTEEN).due(1, "ifRuns 0").due(2, "ifRuns 1").due(1000, "ifRuns 999").due(NONE, "ifRuns -1", "ifRuns 1000");
+        Run.of(3, EIGHTEEN).due(1, "ifRuns 0").due(2, "ifRuns 1").due(1000, "ifRuns 999")
+            .due(NONE, "ifRuns -1", "ifRuns 1000");
         Run.of(3, EIGHTEEN + "d1").due(1, "ifRuns 0", "ifRuns 2").due(2, "ifRuns 3").due(334, "ifRuns 999");
         // as target(): the first innings has not ended, P is 0; when the MATCH is over it answers
         Run.of(3, EIGHTEEN.substring(1)).due(NONE, "ifRuns 0", "ifRuns 999").came("0").due(1, "ifRuns 0");
@@ -114,11 +119,14 @@ public final class WouldBeBoundsTest {
 
     /** "more than its runs by v or more": v as great as it is, and one more. */
     private static void leastCut() {
-        Run m = Run.of(3, EIGHTEEN).due(1, "leastCut MIN", "leastCut 0", "leastCut 7").due(2, "leastCut 8", "leastCut 13");
+        Run m = Run.of(3, EIGHTEEN).due(1, "leastCut MIN", "leastCut 0", "leastCut 7")
+            .due(2, "leastCut 8", "leastCut 13");
         m.due(NONE, "leastCut 14", "leastCut 19", "leastCut MAX");
         m.came("3").due(1, "leastCut 4").due(2, "leastCut 5", "leastCut 10").due(NONE, "leastCut 11");
-        m.came("6").due(1, "leastCut -2", "leastCut MIN").due(2, "leastCut -1", "leastCut 0", "leastCut 4").due(NONE, "leastCut 5");
-        m.came(dots(4)).due(1, "leastCut -2").came("0").due(2, "leastCut -2", "leastCut MIN", "leastCut 4").due(NONE, "leastCut 5");
+        m.came("6").due(1, "leastCut -2", "leastCut MIN").due(2, "leastCut -1", "leastCut 0", "leastCut 4")
+            .due(NONE, "leastCut 5");
+        m.came(dots(4)).due(1, "leastCut -2").came("0").due(2, "leastCut -2", "leastCut MIN", "leastCut 4")
+            .due(NONE, "leastCut 5");
         m.came(dots(5)).due(2, "leastCut 4").came("0").due(NONE, "leastCut 4", "leastCut 0", "leastCut MIN");
         // as ifCut()
         Run.leaves(steps(3, "66"), NONE, "leastCut 0");
@@ -129,7 +137,8 @@ public final class WouldBeBoundsTest {
         Run.of(1, "1" + dots(5)).due(NONE, "leastCut MIN");
         Run.of(2, "1" + dots(11)).due(1, "leastCut MIN", "leastCut 1").due(NONE, "leastCut 2");
         // S 20 of 20 overs: n and 1 for n overs; 19 is the most.
-        Run.of(20, "5555" + dots(116)).due(1, "leastCut 2").due(2, "leastCut 3").due(18, "leastCut 19").due(19, "leastCut 20")
+        Run.of(20, "5555" + dots(116)).due(1, "leastCut 2").due(2, "leastCut 3").due(18, "leastCut 19")
+            .due(19, "leastCut 20")
             .due(NONE, "leastCut 21");
     }
 
@@ -154,8 +163,10 @@ public final class WouldBeBoundsTest {
                 .due(now.ask("target"), "after " + k + " 4").due(now.ask("par"), "after " + k + " 5");
             whole.due(NOT_SO_MANY, "after " + k + " 6", "after " + k + " -1");
         }
-        whole.due(NOT_SO_MANY, "after 15 0", "after -1 0", "after MIN 0", "after MAX 0", "after 0 MIN", "after 0 MAX", "after 15 6");
-        whole.due(13, "back").due(NOT_SO_MANY, "after 14 0").due(1, "after 13 0").due(13, "clear").due(NOT_SO_MANY, "after 1 0");
+        whole.due(NOT_SO_MANY, "after 15 0", "after -1 0", "after MIN 0", "after MAX 0", "after 0 MIN",
+            "after 0 MAX", "after 15 6");
+        whole.due(13, "back").due(NOT_SO_MANY, "after 14 0").due(1, "after 13 0").due(13, "clear")
+            .due(NOT_SO_MANY, "after 1 0");
         whole.row("after 0", 0, 0, 0, 0, NONE, NONE, NOT_SO_MANY);
         for (String call : new String[] {"after -1 0", "after 15 0", "after 3 6", "after 3 -1"}) {
             Run.leaves(steps(4, first(WHOLE.length)), NOT_SO_MANY, call);
@@ -169,7 +180,8 @@ public final class WouldBeBoundsTest {
             .row("after 3", 2, 4, 0, 1, NONE, NONE);
         // None came of a text with a FAULT.
         Run.of(1, "4").events(NONE, "4 7").due(NOT_SO_MANY, "after 2 0").due(4, "after 1 1");
-        Run full = new Run().came("w".repeat(400)).due(400, "after 400 1").due(399, "after 399 1").due(NOT_SO_MANY, "after 401 1");
+        Run full = new Run().came("w".repeat(400)).due(400, "after 400 1").due(399, "after 399 1")
+            .due(NOT_SO_MANY, "after 401 1");
         full.due(0, "after 0 1");
     }
 
@@ -182,7 +194,8 @@ public final class WouldBeBoundsTest {
         m.due(NONE, "firstAhead").came("1").due(NONE, "firstAhead").due(2, "par").came("w").due(15, "firstAhead");
         // The first of them stays, when it is behind, or ahead again, or all is over.
         m.came("000").due(15, "firstAhead").came("6").due(15, "firstAhead").came("/").due(15, "firstAhead");
-        m.due(19, "back").due(18, "back").due(17, "back").due(16, "back").due(15, "back", "firstAhead").due(14, "back").due(NONE, "firstAhead");
+        m.due(19, "back").due(18, "back").due(17, "back").due(16, "back").due(15, "back", "firstAhead")
+            .due(14, "back").due(NONE, "firstAhead");
         Run.of(2, first + "w").due(13, "firstAhead");
         Run.of(2, first + "2").due(13, "firstAhead");
         Run.of(2, first + "0" + "1").due(NONE, "firstAhead");
@@ -199,7 +212,8 @@ public final class WouldBeBoundsTest {
         Run.leaves(steps(2, first + "w"), 13, "firstAhead");
         Run.leaves(steps(2, first), NONE, "firstAhead");
         // the last EVENT that can be
-        Run last = new Run().came("w".repeat(279)).came(dots(120)).due(NONE, "firstAhead").came("w").due(400, "firstAhead", "count 0");
+        Run last = new Run().came("w".repeat(279)).came(dots(120)).due(NONE, "firstAhead").came("w")
+            .due(400, "firstAhead", "count 0");
         last.due(399, "back").due(NONE, "firstAhead");
     }
 
