@@ -12,8 +12,6 @@ import java.util.TreeSet;
 import java.util.regex.Matcher;
 import java.util.regex.Pattern;
 import java.util.stream.Stream;
-import javax.tools.JavaCompiler;
-import javax.tools.ToolProvider;
 
 /**
  * The calls that README.md shows compile against the class and answer as it says. A block of Java there is a
@@ -119,9 +117,9 @@ public final class ReadmeTest {
         Path work = Files.createTempDirectory("readme");
         Path file = work.resolve("ReadmeShown.java");
         Files.writeString(file, source);
-        JavaCompiler compiler = ToolProvider.getSystemJavaCompiler();
-        int failed = compiler.run(null, System.out, System.out, "-Xlint:all", "-Werror",
-            "-cp", System.getProperty("java.class.path"), "-d", work.toString(), file.toString());
+        int failed = new ProcessBuilder("javac", "-Xlint:all", "-Werror", "-encoding", "UTF-8",
+            "-cp", System.getProperty("java.class.path"), "-d", work.toString(), file.toString())
+            .inheritIO().start().waitFor();
         check(failed == 0, "what it shows does not compile");
         if (failed == 0) {
             URL[] places = {work.toUri().toURL()};
